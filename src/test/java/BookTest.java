@@ -25,6 +25,9 @@ public final class BookTest {
         wrong();
         mistaken();
         cart();
+        spanOfKind();
+        timesInEveryOrder();
+        inTheFirstCorner();
         whatChangesTheBook();
         CHECK.finish();
     }
@@ -452,6 +455,86 @@ public final class BookTest {
         due("25 the coarser jar may be still", x.cart(0), 0);
         x.report(FELT, 1, 0, 100);
         due("25 not if its house felt so much", x.cart(0), 1);
+    }
+
+    private static void spanOfKind() {
+        DragonJars x = new DragonJars();
+        x.house(0, 5, 5, 200, 10);
+        x.house(0, 6, 5, 1, 10);
+        x.report(DROP, 1, 0, 0);
+        due("20 a ball fell: level alone", x.span(4, 0), 0);
+        due("20 a ball fell: level alone", x.span(4, 1), 0);
+        x.forget();
+        x.report(FELT, 0, 0, 240);
+        x.report(DROP, 1, 0, -1);
+        due("20 no ball so near: upright alone", x.span(4, 0), 1);
+        due("20 no ball so near: upright alone", x.span(4, 1), 1);
+        due("18 fits()", x.fits(), 1);
+    }
+
+    private static void nearestIs(int slip, int time, int wrong, int... clocks) {
+        DragonJars x = new DragonJars();
+        x.house(0, 0, 0, 10, 240);
+        x.clock(0, 0, slip);
+        for (int v : clocks) {
+            x.report(CLOCK, 0, 0, v);
+        }
+        x.report(FELT, 0, 0, 240);
+        due("22 time", x.nearest(5), time);
+        due("22 wrong", x.nearest(6), wrong);
+        for (int r = 0; r < clocks.length; r++) {
+            due("23 wrong(" + r + ")", x.wrong(r), Math.abs(clocks[r] - time) <= slip ? 0 : 1);
+        }
+    }
+
+    private static void timesInEveryOrder() {
+        nearestIs(0, 300, 1, 300, 500);
+        nearestIs(0, 300, 1, 500, 300);
+        nearestIs(5, 505, 1, 500, 510, 300);
+        nearestIs(5, 505, 1, 300, 510, 500);
+        nearestIs(5, 505, 1, 510, 300, 500);
+        nearestIs(5, 295, 2, 300, 520, 509);
+        nearestIs(5, 0, 1, -5, 500);
+        nearestIs(5, 0, 1, 500, -5);
+        nearestIs(5, 6, 0, 5, 11);
+        nearestIs(5, 0, 1, 5, 16);
+        nearestIs(5, 1, 0, 5, 6);
+        nearestIs(5, 495, 1, -6, 500);
+        nearestIs(5, 1000000, 0, 1000005);
+        nearestIs(5, 0, 1, 1000006);
+        nearestIs(20, 7, 1, 27, 26, 25, -20, -13);
+    }
+
+    private static void inTheFirstCorner() {
+        DragonJars x = new DragonJars();
+        x.house(0, 0, 0, 1, 10);
+        x.house(0, 0, 1, 1, 10);
+        x.house(0, 11, 11, 240, 10);
+        x.report(DROP, 2, 0, -1);
+        x.report(DROP, 1, 0, 2);
+        x.report(FELT, 1, 0, 221);
+        x.report(LESS, 1, 0, 240);
+        due("18 just below", x.fits(), 1);
+        due("19 x", x.fit(0, 0), 0);
+        due("19 y", x.fit(0, 1), 0);
+        due("21 the way there", x.way(0), 8);
+        due("21 the way there", x.way(1), 2);
+        due("21 the way there", x.way(2), 1);
+        due("25 the far jar is still", x.cart(1), 0);
+        x.report(DROP, 0, 0, 2);
+        due("24 no ball in the middle", x.mistaken(), 1);
+        x.forget();
+        x.report(DROP, 0, 0, -1);
+        x.report(DROP, 1, 0, 2);
+        due("25 it was in the middle of the still jar", x.cart(1), 0);
+        x.report(LESS, 1, 0, 19);
+        x.report(FELT, 1, 0, 18);
+        due("25 from there still", x.cart(1), 0);
+        x.forget();
+        x.report(DROP, 0, 0, -1);
+        x.report(DROP, 1, 0, 0);
+        x.report(FELT, 1, 0, 60);
+        due("25 no middle is so", x.cart(1), 1);
     }
 
     private static void whatChangesTheBook() {

@@ -84,6 +84,9 @@ public final class NextTest {
         DragonJars y = withWidths(0, 1, 2, 3, 4, 5, 6, 7, 8);
         due("27 eight that all fall", y.which(0, 3, 2, 0, 1, 8, 1), 28);
         due("27 eight that all fall", y.which(0, 3, 2, 0, 1, 8, 0), 7);
+        DragonJars z = withWidths(2, 1, 2, 3, 4, 5, 6, 7, 200, 9);
+        due("27 the last of eight", z.which(0, 1, 2, 2, 1, 8, 0), 128);
+        due("27 nine", z.which(0, 1, 2, 2, 1, 9, 0), OUTSIDE);
     }
 
     private static void whichRefuses() {
