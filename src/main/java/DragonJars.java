@@ -235,12 +235,12 @@ public final class DragonJars {
     }
 
     public int fits() {
-        fitting.bringUp();
+        fitting.refresh();
         return fitting.count;
     }
 
     public int fit(int i, int what) {
-        fitting.bringUp();
+        fitting.refresh();
         if (i < 0 || i >= fitting.count) {
             return UNKNOWN;
         }
@@ -251,7 +251,7 @@ public final class DragonJars {
         if (!isWithin(what, 0, 5) || !isWithin(end, 0, 1)) {
             return OUTSIDE;
         }
-        fitting.bringUp();
+        fitting.refresh();
         if (fitting.count == 0) {
             return STATE;
         }
@@ -263,7 +263,7 @@ public final class DragonJars {
         if (a == null) {
             return UNKNOWN;
         }
-        fitting.bringUp();
+        fitting.refresh();
         return fitting.count == 0 ? STATE : fitting.oneWayAt(a);
     }
 
@@ -271,7 +271,7 @@ public final class DragonJars {
         if (!isWithin(what, 0, 6)) {
             return OUTSIDE;
         }
-        fewest.bringUp();
+        fewest.refresh();
         switch (what) {
             case 5: return fewest.time;
             case 6: return fewest.wrongs;
@@ -287,13 +287,13 @@ public final class DragonJars {
         if (!told.on) {
             return 0;
         }
-        fewest.bringUp();
+        fewest.refresh();
         book.weigh(fewest.cell);
         return book.isSo(r, fewest.bit, fewest.time) ? 0 : 1;
     }
 
     public int mistaken() {
-        fitting.bringUp();
+        fitting.refresh();
         return fitting.count > 0 ? 0 : fitting.housesToLeaveOut();
     }
 
@@ -321,7 +321,7 @@ public final class DragonJars {
         if (!isForce(v) || !isWithin(what, 0, 2)) {
             return OUTSIDE;
         }
-        fitting.bringUp();
+        fitting.refresh();
         if (fitting.count == 0) {
             return STATE;
         }
@@ -350,7 +350,7 @@ public final class DragonJars {
         if (!isWithin(n, k, 8) || !row.holdsForces(i, n)) {
             return OUTSIDE;
         }
-        fitting.bringUp();
+        fitting.refresh();
         if (fitting.count == 0) {
             return STATE;
         }
@@ -416,8 +416,8 @@ public final class DragonJars {
         if (row == null) {
             return UNKNOWN;
         }
-        boolean had = row.is;
-        row.is = false;
+        boolean had = row.hasRow;
+        row.hasRow = false;
         return had ? 1 : 0;
     }
 
@@ -998,7 +998,7 @@ public final class DragonJars {
             this.book = book;
         }
 
-        void bringUp() {
+        void refresh() {
             if (known) {
                 return;
             }
@@ -1118,7 +1118,7 @@ public final class DragonJars {
             this.book = book;
         }
 
-        void bringUp() {
+        void refresh() {
             if (known) {
                 return;
             }
@@ -1433,12 +1433,12 @@ public final class DragonJars {
         static final int MOST = 40;
 
         final int[] cells = new int[MOST];
-        boolean is = false;
+        boolean hasRow = false;
         int lane = 0;
         int length = 0;
 
         void renew(int newLane, int n) {
-            is = true;
+            hasRow = true;
             lane = newLane;
             length = n;
             Arrays.fill(cells, 0);
@@ -1461,7 +1461,7 @@ public final class DragonJars {
 
         /** The first FAULT of taking n things, of so many cells each, from i on; 0: none. */
         int faultOfCells(int asLane, int i, int n, int each) {
-            if (!is) {
+            if (!hasRow) {
                 return NULL_FAULT;
             }
             if (lane != asLane) {

@@ -535,6 +535,13 @@ public final class BookTest {
         x.report(DROP, 1, 0, 0);
         x.report(FELT, 1, 0, 60);
         due("25 no middle is so", x.cart(1), 1);
+        x.forget();
+        x.report(DROP, 0, 0, -1);
+        x.report(DROP, 1, 0, 6);
+        x.report(FELT, 1, 0, 60);
+        due("25 the still jar would have had it, too", x.cart(1), 1);
+        x.turn(0, false);
+        due("25 nobody told of it", x.cart(1), 0);
     }
 
     private static void whatChangesTheBook() {
