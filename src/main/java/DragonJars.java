@@ -899,10 +899,14 @@ public final class DragonJars {
 
         private void weighReport(int r) {
             Report told = reports[r];
-            House a = land.houses[told.house];
-            so[r] = bitsFor(told, a, fars[told.house], ways[told.house]);
+            House a = land.find(told.house);
+            so[r] = 0;
             from[r] = 0;
             until[r] = LAST_TIME;
+            if (a == null) {
+                return;
+            }
+            so[r] = bitsFor(told, a, fars[told.house], ways[told.house]);
             if (told.kind == CLOCK) {
                 int time = told.value - a.off - delays[told.house];
                 from[r] = Math.max(0, time - a.slip);

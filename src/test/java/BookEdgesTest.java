@@ -19,18 +19,28 @@ public final class BookEdgesTest {
         fitsNoneButOff();
         fitsAtOneTime();
         fitsOfNeedBelowNothing();
+        fitsOfEveryForce();
+        whatIsFoundIsAnswered();
+        nothingIsLeftOfForgotten();
         fitFirstAndLast();
         spanOfOne();
         spanOfTimes();
         wayOfOne();
+        wayOfSeveral();
         nearestAllWrong();
+        nearestAllWrongAfterOthers();
         nearestFirst();
+        nearestFirstOfClocks();
+        nearestWithoutClocks();
         nearestLeastTime();
         wrongWhenOff();
         mistakenLast();
         mistakenNeedsReports();
+        mistakenOfOneGuess();
         cartOfEach();
         cartOfOthers();
+        noMiddleBeyondTheRim();
+        allIsAskedOfAFullBook();
         CHECK.finish();
     }
 
@@ -263,6 +273,60 @@ public final class BookEdgesTest {
         due("18 need 1 stands with force 0", x.fits(), 0);
     }
 
+    /** How many strengths, of two kinds each, give a FORCE and more, so FAR away. */
+    private static int guessesFrom(int far, int force) {
+        int found = 0;
+        for (int s = 1; s <= 12; s++) {
+            found += 240 * s / (12 + far) >= force ? 2 : 0;
+        }
+        return found;
+    }
+
+    private static void fitsOfEveryForce() {
+        for (int force = 1; force <= 240; force++) {
+            int found = 0;
+            for (int cell = 0; cell < 576; cell++) {
+                int dx = 4 - cell / 48, dy = 7 - cell / 4 % 12, z = cell % 4;
+                found += guessesFrom(dx * dx + dy * dy + 9 * z * z, force);
+            }
+            DragonJars x = withHouse(4, 7, 10, force);
+            x.report(FELT, 0, 0, force);
+            due("18 felt " + force, x.fits(), found);
+            x.forget();
+            x.report(LESS, 0, 0, force);
+            due("18 less than " + force, x.fits(), 13824 - found);
+            x.forget();
+            x.report(CLOCK, 0, 0, 5000);
+            due("18 a clock that stops from " + force + " on", x.fits(), found);
+        }
+    }
+
+    private static void whatIsFoundIsAnswered() {
+        DragonJars x = withHouse(5, 5, 10, 240);
+        x.shake(5, 5, 0, 12, 0, 9);
+        due("18 fits()", x.fits(), 13824);
+        due("22 nearest(0)", x.nearest(0), 0);
+        due("26 next(240, 2)", x.next(240, 2), 13824);
+        due("14 look(0)", x.look(0), 2);
+        due("18 a jar that is still, a clock that stopped from 240 on", x.fits(), 2);
+        due("20 span(5, 1)", x.span(5, 1), 9);
+        due("22 nearest(0)", x.nearest(0), 5);
+        due("26 next(240, 2)", x.next(240, 2), 2);
+        due("23 wrong(1)", x.wrong(1), 0);
+    }
+
+    private static void nothingIsLeftOfForgotten() {
+        DragonJars x = withHouse(5, 5, 10, 240);
+        x.report(CLOCK, 0, 0, 700);
+        due("20 span(5, 0)", x.span(5, 0), 700);
+        due("20 span(5, 1)", x.span(5, 1), 700);
+        x.forget();
+        x.report(FELT, 0, 0, 240);
+        due("17 the time of what is forgotten is, too", x.span(5, 0), 0);
+        due("17 the time of what is forgotten is, too", x.span(5, 1), 1000000);
+        due("23 wrong(0)", x.wrong(0), 0);
+    }
+
     private static void fitFirstAndLast() {
         DragonJars x = withHouse(5, 5, 10, 10);
         x.house(0, 6, 5, 1, 10);
@@ -351,6 +415,23 @@ public final class BookEdgesTest {
         due("21 unknown ahead of state", x.way(3), UNKNOWN);
     }
 
+    private static void wayOfSeveral() {
+        DragonJars x = withHouse(5, 5, 205, 10);
+        x.house(0, 11, 5, 1, 10);
+        x.house(0, 5, 11, 1, 10);
+        x.house(0, 4, 5, 1, 10);
+        x.report(FELT, 0, 0, 200);
+        x.report(DROP, 1, 0, 0);
+        // LEVEL, a FAR of 0, 1 or 2 from 5, 5: all of one WAY from there to 11, 5 and to 5, 11.
+        due("21 several middles, one way", x.way(1), 0);
+        due("21 several middles, another way", x.way(2), 2);
+        due("21 several middles, several ways", x.way(3), NONE);
+        due("21 several ways round the middle", x.way(0), NONE);
+        x.report(DROP, 0, 0, 1);
+        due("21 4, 4 alone", x.way(0), 1);
+        due("21 4, 4 alone", x.way(3), 2);
+    }
+
     private static void nearestAllWrong() {
         DragonJars x = withHouse(5, 5, 10, 10);
         x.pillar(0, 10, 0);
@@ -371,6 +452,45 @@ public final class BookEdgesTest {
         due("22 one is left", x.nearest(6), 1);
         x.turn(39, false);
         due("22 none is left", x.nearest(6), 0);
+    }
+
+    private static void nearestAllWrongAfterOthers() {
+        DragonJars x = withHouse(5, 5, 10, 10);
+        x.pillar(0, 10, 0);
+        x.report(FELT, 0, 0, 240);
+        x.report(CLOCK, 0, 0, 60);
+        due("22 nearest(0)", x.nearest(0), 5);
+        due("22 nearest(5)", x.nearest(5), 60);
+        x.forget();
+        for (int r = 0; r < 40; r++) {
+            x.report(PILLAR, 0, 0, 8);
+        }
+        int[] want = {0, 0, 0, 1, 0, 0, 40};
+        for (int what = 0; what < 7; what++) {
+            due("22 nearest(" + what + "), all wrong", x.nearest(what), want[what]);
+        }
+    }
+
+    private static void nearestFirstOfClocks() {
+        DragonJars x = withHouse(0, 0, 10, 1);
+        x.report(CLOCK, 0, 0, 200);
+        x.report(CLOCK, 0, 0, 100);
+        int[] want = {0, 0, 0, 1, 0, 100, 1};
+        for (int what = 0; what < 7; what++) {
+            due("22 of all of whom one clock is wrong the first: nearest(" + what + ")", x.nearest(what), want[what]);
+        }
+    }
+
+    private static void nearestWithoutClocks() {
+        DragonJars x = withHouse(0, 0, 10, 200);
+        x.house(0, 11, 11, 10, 10);
+        x.report(CLOCK, 0, 0, 500);
+        x.report(FELT, 1, 0, 239);
+        x.report(FELT, 1, 0, 240);
+        int[] want = {11, 11, 0, 12, 0, 0, 1};
+        for (int what = 0; what < 7; what++) {
+            due("22 no clock stops there: nearest(" + what + ")", x.nearest(what), want[what]);
+        }
     }
 
     private static void nearestFirst() {
@@ -455,6 +575,22 @@ public final class BookEdgesTest {
         due("24 it takes nothing away to leave it out", x.mistaken(), 1);
     }
 
+    private static void mistakenOfOneGuess() {
+        DragonJars x = withHouse(6, 5, 1, 10);
+        x.house(0, 4, 5, 1, 10);
+        x.house(0, 5, 5, 240, 10);
+        x.report(FELT, 2, 0, 240);
+        x.report(DROP, 0, 0, 0);
+        due("24 fits()", x.fits(), 1);
+        due("24 one fits", x.mistaken(), 0);
+        x.report(DROP, 1, 0, -1);
+        due("24 fits()", x.fits(), 0);
+        // Without 0 it was UPRIGHT, without 1 LEVEL, without 2 in the middle of 1.
+        due("24 each of three", x.mistaken(), 7);
+        x.report(LESS, 2, 0, 1);
+        due("24 the third's own are against one another", x.mistaken(), 4);
+    }
+
     private static void cartOfEach() {
         for (int way = 0; way < 8; way++) {
             DragonJars x = withHouse(5, 5, 10, 10);
@@ -490,5 +626,47 @@ public final class BookEdgesTest {
         due("25 cart(4)", x.cart(4), UNKNOWN);
         due("25 cart(-1)", x.cart(-1), UNKNOWN);
         due("25 of none", x.cart(3), STATE);
+    }
+
+    private static void noMiddleBeyondTheRim() {
+        int[][] rims = {{11, 0, 4}, {11, 5, 4}, {0, 5, 0}, {5, 11, 6}, {5, 0, 2}, {0, 0, 1}, {11, 11, 5}, {11, 0, 3}};
+        for (int[] rim : rims) {
+            DragonJars x = withHouse(rim[0], rim[1], 1, 1);
+            x.house(0, 5, 5, 240, 240);
+            x.report(DROP, 0, 0, rim[2]);
+            x.report(FELT, 1, 0, 240);
+            due("18 the ball came from beyond the rim", x.fits(), 0);
+            due("22 how many are wrong", x.nearest(6), 1);
+            due("22 the other is not", x.nearest(0), 5);
+            due("23 wrong(0)", x.wrong(0), 1);
+            due("23 wrong(1)", x.wrong(1), 0);
+            due("24 that house alone", x.mistaken(), 1);
+            due("25 no guess fits it", x.cart(0), 1);
+            x.turn(1, false);
+            due("22 the first of all", x.nearest(0) + x.nearest(1) + x.nearest(2) + x.nearest(4), 0);
+            due("22 the first of all", x.nearest(3), 1);
+            due("24 that house alone", x.mistaken(), 1);
+        }
+    }
+
+    private static void allIsAskedOfAFullBook() {
+        DragonJars x = Scene.FULL.made();
+        x.forget();
+        x.report(DROP, 0, 0, 0);
+        for (int r = 1; r < 39; r++) {
+            x.report(DROP, 1 + r % 6, 0, -1);
+        }
+        int still = x.cart(0);
+        due("13 the last", x.report(LESS, 0, 0, 1), 39);
+        due("18 none fits", x.fits(), 0);
+        due("22 one is wrong", x.nearest(6), 1);
+        due("24 the first house, not the last, which has none", x.mistaken(), 1);
+        due("25 its own are against one another", x.cart(0), 1);
+        due("25 a drop of none", x.cart(38), STATE);
+        due("25 no drop", x.cart(39), STATE);
+        due("25 there is none", x.cart(40), UNKNOWN);
+        due("23 there is none", x.wrong(40), UNKNOWN);
+        x.turn(39, false);
+        due("25 the last is off", x.cart(0), still);
     }
 }

@@ -13,6 +13,8 @@ public final class NextEdgesTest {
         whichOfOneWidth();
         whichOfEight();
         whichOfEqualWorst();
+        whichOfEveryWidth();
+        whichOfMostThatFall();
         whichInEveryLane();
         whichAtBothEnds();
         whichOfOneGuess();
@@ -135,6 +137,44 @@ public final class NextEdgesTest {
         due("27 of four the first three", x.which(0, 3, 2, 2, 4, 4, 0), 7);
     }
 
+    /** How many GUESSES give a HOUSE at a PLACE a FORCE, or more. */
+    private static int reached(int placeX, int placeY, int force) {
+        int found = 0;
+        for (int cell = 0; cell < 576; cell++) {
+            int dx = placeX - cell / 48, dy = placeY - cell / 4 % 12, z = cell % 4;
+            for (int s = 1; s <= 12; s++) {
+                found += 240 * s / (12 + dx * dx + dy * dy + 9 * z * z) >= force ? 2 : 0;
+            }
+        }
+        return found;
+    }
+
+    private static void whichOfEveryWidth() {
+        DragonJars x = offered(2, 1);
+        x.house(0, 3, 8, 1, 1);
+        for (int width = 1; width <= 240; width += 3) {
+            x.put(2, 0, width);
+            int fall = reached(3, 8, width);
+            due("27 a width of " + width, x.which(1, 1, 2, 2, 0, 1, 1), Math.max(fall, 13824 - fall));
+        }
+    }
+
+    private static void whichOfMostThatFall() {
+        DragonJars x = offered(2, 3, 9, 60);
+        int three = reached(0, 0, 3);
+        int nine = reached(0, 0, 9);
+        int sixty = reached(0, 0, 60);
+        CHECK.dueTrue("most fall of 3: " + three, three > 13824 - three);
+        due("27 worst of 3", x.which(0, 1, 2, 2, 0, 1, 1), three);
+        due("27 worst of 9", x.which(0, 1, 2, 2, 1, 1, 1), Math.max(nine, 13824 - nine));
+        int[] between = {13824 - three, three - nine, nine - sixty, sixty};
+        int worst = 0;
+        for (int one : between) {
+            worst = Math.max(worst, one);
+        }
+        due("27 worst of all three", x.which(0, 3, 2, 2, 0, 3, 1), worst);
+    }
+
     private static void whichInEveryLane() {
         for (int lane = 0; lane < 3; lane++) {
             DragonJars x = offered(lane, 1, 127, 128, 240, 241, 0, -1);
@@ -167,6 +207,8 @@ public final class NextEdgesTest {
         due("27 the last", x.which(0, 1, 3, 1, 39, 1, 0), 1);
         due("27 beyond the last", x.which(0, 1, 3, 1, 40, 1, 0), -13);
         due("27 of no cells", x.which(0, 1, 3, 1, 40, 0, 0), OUTSIDE);
+        due("27 no cells, far off: none is missing", x.which(0, 1, 3, 1, 41, 0, 0), OUTSIDE);
+        due("27 no cells, below 0: none is missing", x.which(0, 1, 3, 1, -1, 0, 0), OUTSIDE);
         due("27 fault()", x.fault(), 0);
         x.sheet(3, 1, 0);
         due("27 an empty row", x.which(0, 1, 3, 1, 0, 1, 0), -13);

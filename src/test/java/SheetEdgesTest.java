@@ -166,6 +166,9 @@ public final class SheetEdgesTest {
         x.sheet(2, 0, 0);
         due("4 an empty row, none of it", x.pillars(0, 2, 0, 0, 0), 0);
         due("4 fault()", x.fault(), 0);
+        due("4 none of it, far off: none is missing", x.pillars(0, 2, 0, 41, 0), 0);
+        due("4 none of it, below 0: none is missing", x.pillars(0, 2, 0, -1, 0), 0);
+        due("4 fault()", x.fault(), 0);
         due("4 an empty row, one", x.pillars(0, 2, 0, 0, 1), -13);
         due("4 an empty row, size", x.pillars(0, 2, 0, 0, -1), -14);
         due("4 an empty row, cast", x.pillars(0, 2, 1, 0, -1), -12);
