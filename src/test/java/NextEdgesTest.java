@@ -10,6 +10,7 @@ public final class NextEdgesTest {
         nextOfEachForce();
         nextFollowsTheBook();
         nextOfNone();
+        nextStaysInTheLand();
         whichOfOneWidth();
         whichOfEight();
         whichOfEqualWorst();
@@ -89,6 +90,18 @@ public final class NextEdgesTest {
         due("26 outside ahead of state", x.next(1, 3), OUTSIDE);
         x.forget();
         due("26 all fit again", x.next(240, 2), 13824);
+    }
+
+    /** Of eight GUESSES a JAR at 12, 0 would tell more than any in THE LAND: it is no PLACE. */
+    private static void nextStaysInTheLand() {
+        DragonJars x = new DragonJars();
+        x.house(0, 11, 1, 30, 14);
+        x.house(0, 8, 2, 55, 18);
+        x.report(DROP, 0, 0, 1);
+        x.report(LESS, 0, 0, 122);
+        x.report(FELT, 1, 0, 84);
+        due("26 fits()", x.fits(), 8);
+        nextIs(x, 90, 7, 1, 5);
     }
 
     /** A land with one HOUSE at 0, 0 and some WIDTHS in SHEET 2. */
